@@ -403,6 +403,10 @@ public final class SealTest {
         x.reload(10, 0, VERSIONS, 6);
         due("ENTRY 1000", x.enter(10, 0, 0, 1), 1);
         due("page 31", x.told(2), 31);
+        due("evict", x.evict(10, VERSIONS, 6), 0);
+        idle[1] = 1;
+        idle[2] = 1000;
+        dueBlob("the words behind the registers stay", x, SEALS.blob(2, 0, 0, 1, 4L, idle));
     }
 
     private static void forgedPlaces() {
