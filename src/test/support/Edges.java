@@ -39,7 +39,12 @@ final class Edges {
     }
 
     void refusedAfter(Call before, String call, Call made, long why) {
-        changesAfter(before, call, made, why, new Changes());
+        refusedButFor(before, call, made, why, new Changes());
+    }
+
+    /** The call is refused and changes what is named, a count, and nothing else. */
+    void refusedButFor(Call before, String call, Call made, long why, Changes named) {
+        changesAfter(before, call, made, why, named);
         Map<String, Long> was = State.hidden(houseAfter(before, NOTHING));
         Map<String, Long> is = State.hidden(houseAfter(before, made));
         compare(call, is, was);
