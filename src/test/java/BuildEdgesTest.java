@@ -30,6 +30,7 @@ public final class BuildEdgesTest {
         dataAddresses();
         dataRights();
         dataAddressTaken();
+        dataAddressTakenByFirstAndLast();
         dataAllAddressesTaken();
         dataFirstThatHolds();
 
@@ -229,6 +230,20 @@ public final class BuildEdgesTest {
         EDGES.due("has not that page", x.data(House.FREE, House.LAST_FREE, taken, 7), 0);
         EDGES.due("a THREAD has no ADDRESS: 1", House.make().data(House.OPEN, House.FREE, 1, 7), 0);
         EDGES.due("a THREAD has no ADDRESS: 0", House.make().data(House.OPEN, House.FREE, 0, 7), 0);
+    }
+
+    private static void dataAddressTakenByFirstAndLast() {
+        EDGES.of("data: 3: it has a DATA page with this ADDRESS: page 0, or P - 1");
+        for (int size : new int[] {8, 40}) {
+            for (int page : new int[] {0, size - 1}) {
+                EnclaveMonitor x = new EnclaveMonitor(size, 0L);
+                x.create(3);
+                EDGES.due("data in " + page, x.data(3, page, 6, 7), 0);
+                EDGES.due("ADDRESS 6 again", x.data(3, 4, 6, 7), 3);
+                EDGES.due("still FREE", x.page(4, 0), 0);
+                EDGES.due("ADDRESS 7", x.data(3, 4, 7, 7), 0);
+            }
+        }
     }
 
     private static void dataAllAddressesTaken() {

@@ -20,6 +20,7 @@ public final class EvictEdgesTest {
 
         blobOfData();
         blobOfAThread();
+        blobOfAThreadWhereDataWas();
         blobIdent();
         blobNumber();
         blobZeros();
@@ -172,6 +173,29 @@ public final class EvictEdgesTest {
         Bench bench = Bench.ready().forge(5, 2, 17, 6, 3, 1, 4);
         due("one that came with others", bench.x.evict(5, Bench.VERSIONS, 9), 0);
         dueBlob("one that came with others", bench.x, Bench.SEALS.blob(2, 0, 0, 1, 2L, Code.page(3, 1, 4)));
+    }
+
+    private static void blobOfAThreadWhereDataWas() {
+        EDGES.of("A BLOB: 1 ADDRESS (THREAD: 0), 2 RIGHTS (THREAD: 0), of a page that was DATA");
+        EnclaveMonitor gone = sealing(9, 31, 7, -1, -1);
+        due("evict THREAD", gone.evict(1, 3, 0), 0);
+        int[] blob = new int[48];
+        for (int k = 0; k < 48; k++) {
+            blob[k] = gone.buffer(k);
+        }
+        due("evict DATA", gone.evict(2, 3, 1), 0);
+        Code.poke(gone, blob);
+        due("the THREAD comes to its page", gone.reload(2, 0, 3, 0), 0);
+        due("evict", gone.evict(2, 3, 0), 0);
+        dueBlob("let go", gone, SEALS.blob(2, 0, 0, 1, 3L, Code.page(9)));
+        EnclaveMonitor removed = sealing(9, 31, 7, -1, -1);
+        removed.stop(0);
+        due("remove DATA", removed.remove(2), 0);
+        removed.create(4);
+        removed.thread(4, 2, 8);
+        removed.finalise(4);
+        due("evict", removed.evict(2, 3, 0), 0);
+        dueBlob("removed", removed, SEALS.blob(2, 0, 0, 2, 1L, Code.page(8)));
     }
 
     private static void blobIdent() {

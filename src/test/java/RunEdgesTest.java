@@ -15,6 +15,7 @@ public final class RunEdgesTest {
         enterRuns();
         enterFromEntry();
         enterRegisters();
+        enterKeepsOtherWords();
         enterNoThread();
         enterOwnerNotFinal();
         enterNotIdle();
@@ -45,10 +46,7 @@ public final class RunEdgesTest {
     }
 
     private static void dueTold(String call, EnclaveMonitor x, int how, int with, int page, int made) {
-        due(call + ", how", x.told(0), how);
-        due(call + ", with", x.told(1), with);
-        due(call + ", page", x.told(2), page);
-        due(call + ", made", x.told(3), made);
+        EDGES.told(call, x, how, with, page, made);
     }
 
     private static void enterRuns() {
@@ -95,6 +93,20 @@ public final class RunEdgesTest {
         due("once", twice.x.enter(Bench.THREAD, 1, 2, 5), 0);
         due("once more", twice.x.enter(Bench.THREAD, 3, 4, 0), 2);
         due("R5 is new", twice.wordsOf(Bench.THREAD)[8], 0);
+    }
+
+    private static void enterKeepsOtherWords() {
+        EDGES.of("enter: R0 .. R7 are words 3 .. 10, and no other word is changed");
+        int[] words = new int[32];
+        for (int k = 11; k < 32; k++) {
+            words[k] = LEAST + k;
+        }
+        Bench bench = Bench.ready().forgeThread(words);
+        due("enter", bench.x.enter(Bench.THREAD, 0, 0, 0), 2);
+        int[] is = bench.wordsOf(Bench.THREAD);
+        for (int k = 11; k < 32; k++) {
+            due("word " + k, is[k], words[k]);
+        }
     }
 
     private static void enterNoThread() {

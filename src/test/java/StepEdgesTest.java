@@ -40,6 +40,8 @@ public final class StepEdgesTest {
         kindsThatAreIllegal();
         addressOutside();
         pageNotThere();
+        pageNoMoreThere();
+        firstAndLastPage();
         withoutTheRightToRun();
         withoutTheRightToRead();
         withoutTheRightToWrite();
@@ -68,10 +70,7 @@ public final class StepEdgesTest {
     }
 
     private static void dueTold(String call, EnclaveMonitor x, int how, int with, int page, int made) {
-        due(call + ", how", x.told(0), how);
-        due(call + ", with", x.told(1), with);
-        due(call + ", page", x.told(2), page);
-        due(call + ", made", x.told(3), made);
+        EDGES.told(call, x, how, with, page, made);
     }
 
     private static void dueRun(String call, Bench bench, int a, int b, int... told) {
@@ -371,6 +370,41 @@ public final class StepEdgesTest {
             }
         }
         dueRun("ENTRY", Bench.open(5).close(), 1, 0, FAULT, 0, 0, 0);
+    }
+
+    private static void pageNoMoreThere() {
+        EDGES.of("A FAULT: or whose page is not there: it was, until it was let go");
+        for (int address : new int[] {0, 1, 31}) {
+            Bench bench = Bench.open(32 * address).with(5, address, 7, Code.end(0)).close();
+            dueRun("there", bench, 4, 0, END, 4, NONE, 1);
+            bench.wordsOf(5);
+            dueRun("not there", bench, 4, 0, FAULT, 0, address, 0);
+        }
+        Bench two = Bench.open(0).with(5, 0, 7, Code.end(0));
+        two.x.create(4);
+        two.x.thread(4, 6, 0);
+        two.close().x.finalise(4);
+        dueRun("there", two, 4, 0, END, 4, NONE, 1);
+        due("not in the enclave that runs next", two.x.enter(6, 4, 0, 1), FAULT);
+        dueTold("not in the enclave that runs next", two.x, FAULT, 0, 0, 0);
+    }
+
+    private static void firstAndLastPage() {
+        EDGES.of("PAGES have numbers 0 .. P - 1: each may be an enclave's DATA or THREAD");
+        for (int size : new int[] {8, 40}) {
+            for (int last = 0; last < 2; last++) {
+                EnclaveMonitor x = new EnclaveMonitor(size, 3L);
+                int code = last * (size - 1);
+                int thread = size - 1 - code;
+                x.create(3);
+                Code.poke(x, Code.word(Code.STORE, 1, 0, 0), Code.word(Code.LOAD, 2, 0, 0), Code.end(2));
+                x.data(3, code, 0, 7);
+                x.thread(3, thread, 0);
+                x.finalise(3);
+                due("DATA in " + code, x.enter(thread, 9, 77, 3), END);
+                dueTold("DATA in " + code, x, END, 77, NONE, 3);
+            }
+        }
     }
 
     private static void withoutTheRightToRun() {

@@ -25,6 +25,13 @@ final class Edges {
         check.due("[" + sentence + "] " + call, got, want);
     }
 
+    /** What is told of the latest RUN. */
+    void told(String call, EnclaveMonitor x, int... want) {
+        for (int k = 0; k < want.length; k++) {
+            due(call + ", " + State.told(k), x.told(k), want[k]);
+        }
+    }
+
     void isTrue(String claim, boolean holds) {
         due(claim, holds ? 1 : 0, 1);
     }
