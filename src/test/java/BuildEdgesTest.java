@@ -50,6 +50,7 @@ public final class BuildEdgesTest {
         removeNotThere();
         removeFree();
         removeOwnerNotStopped();
+        removeWithoutOwner();
         removeEnclaveNotStopped();
         removeOwnerOfAPage();
         EDGES.end("BuildEdgesTest");
@@ -385,6 +386,27 @@ public final class BuildEdgesTest {
         for (int p : pages) {
             EDGES.refused("remove " + p, x -> x.remove(p), 2);
         }
+    }
+
+    private static long letMoreGo(EnclaveMonitor x) {
+        return x.evict(House.IDLE, House.VERSIONS, 0) + x.evict(House.CODE, House.VERSIONS, 15);
+    }
+
+    private static void removeWithoutOwner() {
+        EDGES.of("remove: 2: its OWNER is not STOPPED: a VERSIONS page has no OWNER");
+        Changes gone = new Changes().free(House.VERSIONS);
+        for (int k = 0; k < 16; k++) {
+            gone.set(State.slot(House.VERSIONS, k), 0);
+        }
+        EDGES.changesAfter(BuildEdgesTest::letMoreGo, "with numbers of a FINAL enclave's pages",
+            x -> x.remove(House.VERSIONS), 0, counted(gone, 4, 0, 5));
+        EnclaveMonitor x = new EnclaveMonitor(8, 0L);
+        x.versions(7);
+        EDGES.due("no enclave is there", x.remove(7), 0);
+        EDGES.due("it is FREE", x.remove(7), 1);
+        x.create(0);
+        x.versions(7);
+        EDGES.due("page 0 is an OPEN enclave", x.remove(7), 0);
     }
 
     private static void removeEnclaveNotStopped() {

@@ -12,6 +12,13 @@ import java.util.TreeSet;
 /** The public face of the document, and those rules of LANGUAGE.md that can be looked up. */
 public final class FaceTest {
     private static final Check CHECK = new Check();
+    private static final Path SOURCE = Path.of("src/main/java/EnclaveMonitor.java");
+    private static final Path DOCUMENT = Path.of("../shared/DOC.md");
+    private static final int MOST_CLASSES = 12;
+    private static final int MOST_FIELDS = 20;
+    private static final int MOST_LINES = 60;
+    private static final Set<Class<?>> CONSTANTS = Set.of(int.class, long.class, boolean.class, char.class,
+        String.class, int[].class, long[].class, char[].class, byte[].class);
     private static final Set<String> FACE = new TreeSet<>(List.of(
         "void poke(int,int)", "int buffer(int)", "int create(int)", "int thread(int,int,int)",
         "int data(int,int,int,int)", "int versions(int)", "int finalise(int)", "int stop(int)",
@@ -25,8 +32,11 @@ public final class FaceTest {
     public static void main(String[] args) throws IOException {
         theClass();
         methods();
+        thrown();
         nested(EnclaveMonitor.class, new TreeSet<>(FACE));
         source();
+        declaredAsInTheDocument();
+        methodsInTheSource();
         CHECK.end("FaceTest");
     }
 
@@ -55,6 +65,16 @@ public final class FaceTest {
         CHECK.isTrue("the face is " + found, found.equals(FACE));
     }
 
+    private static void thrown() {
+        for (Method method : EnclaveMonitor.class.getMethods()) {
+            if (method.getDeclaringClass() == EnclaveMonitor.class) {
+                boolean throwing = Set.of("poke", "buffer").contains(method.getName());
+                List<Class<?>> want = throwing ? List.of(IndexOutOfBoundsException.class) : List.of();
+                CHECK.isTrue("thrown by " + method, List.of(method.getExceptionTypes()).equals(want));
+            }
+        }
+    }
+
     private static String told(Method method) {
         StringBuilder text = new StringBuilder();
         text.append(method.getReturnType()).append(' ').append(method.getName()).append('(');
@@ -81,15 +101,25 @@ public final class FaceTest {
             CHECK.isTrue("not public " + inside, !Modifier.isPublic(inside.getModifiers()));
             nested(inside, face);
         }
-        for (Field field : outer.getDeclaredFields()) {
-            boolean fixed = !Modifier.isStatic(field.getModifiers())
-                || Modifier.isFinal(field.getModifiers());
-            CHECK.isTrue("static is final " + field, fixed);
+        fields(outer);
+        CHECK.isTrue("classes inside " + outer, outer.getDeclaredClasses().length < MOST_CLASSES);
+    }
+
+    private static void fields(Class<?> owner) {
+        int many = 0;
+        for (Field field : owner.getDeclaredFields()) {
+            if (Modifier.isStatic(field.getModifiers())) {
+                CHECK.isTrue("static is final " + field, Modifier.isFinal(field.getModifiers()));
+                CHECK.isTrue("static is a constant " + field, CONSTANTS.contains(field.getType()));
+            } else {
+                many++;
+            }
         }
+        CHECK.isTrue("fields of " + owner, many <= MOST_FIELDS);
     }
 
     private static void source() throws IOException {
-        String text = Files.readString(Path.of("src/main/java/EnclaveMonitor.java"));
+        String text = Files.readString(SOURCE);
         for (String word : new String[] {"import ", "package ", "->", "::", "synchronized", "assert ",
             "finally", "try ", "catch", "float", "double", "System.out", "Exact("}) {
             CHECK.isTrue("the source has " + word, !text.contains(word));
@@ -99,5 +129,44 @@ public final class FaceTest {
                 CHECK.isTrue("letter " + letter, false);
             }
         }
+    }
+
+    /** The names of the parameters too, and no more thrown than the document says. */
+    private static void declaredAsInTheDocument() throws IOException {
+        String source = Files.readString(SOURCE);
+        String document = Files.readString(DOCUMENT);
+        int from = document.indexOf("```java\n") + "```java\n".length();
+        int found = 0;
+        for (String line : document.substring(from, document.indexOf("```", from)).lines().toList()) {
+            boolean opens = line.endsWith(");") || line.endsWith("Exception;");
+            String wanted = opens ? line.substring(0, line.length() - 1) + " {" : line;
+            CHECK.isTrue("the source has: " + wanted, source.contains(wanted + "\n"));
+            found += opens ? 1 : 0;
+        }
+        CHECK.due("calls of the document, with the constructor", found, FACE.size() + 1);
+    }
+
+    /** Methods are short, and but for constructors none makes an object other than what it throws. */
+    private static void methodsInTheSource() throws IOException {
+        String head = "";
+        int lines = 0;
+        for (String line : Files.readAllLines(SOURCE)) {
+            String text = line.strip();
+            int indent = line.indexOf(text);
+            boolean member = indent == 4 || indent == 8;
+            boolean begins = head.isEmpty() && member && text.endsWith("{") && text.contains("(");
+            if (begins && !text.startsWith("for ") && !text.startsWith("if ")) {
+                head = line;
+                lines = 0;
+            }
+            lines++;
+            boolean maker = head.isEmpty() || head.contains("EnclaveMonitor(") || head.contains(" Sealer(");
+            CHECK.isTrue("makes an object: " + line, maker || !text.contains("new ") || text.startsWith("throw new "));
+            if (!head.isEmpty() && line.equals(" ".repeat(head.indexOf(head.strip())) + "}")) {
+                CHECK.isTrue("lines of " + head.strip() + " " + lines, lines <= MOST_LINES);
+                head = "";
+            }
+        }
+        CHECK.isTrue("the last method ends", head.isEmpty());
     }
 }
